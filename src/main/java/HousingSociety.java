@@ -971,7 +971,7 @@ public final class HousingSociety {
 
         void moveHolder(int member, int home, int onDay) {
             int held = ofMember(member, onDay);
-            if (held == NONE || !hasRoom(1)) {
+            if (held == NONE) {
                 return;
             }
             Right old = rows[held];
@@ -1136,24 +1136,19 @@ public final class HousingSociety {
             faultKind = 0;
             faultPlace = NONE;
             advance();
-            if (!readParts()) {
+            boolean isText = true;
+            for (part = 0; part < PARTS && isText; part++) {
+                starts[part] = codeSize;
+                isText = skip(POINTS + part) && readOr(0) && skip(';');
+            }
+            starts[PARTS] = codeSize;
+            if (!isText || token != ENDED) {
                 faultKind = 1;
                 faultPlace = tokenPlace;
             } else if (forbiddenPlace != NONE) {
                 faultKind = 2;
                 faultPlace = forbiddenPlace;
             }
-        }
-
-        private boolean readParts() {
-            for (part = 0; part < PARTS; part++) {
-                starts[part] = codeSize;
-                if (!skip(POINTS + part) || !readOr(0) || !skip(';')) {
-                    return false;
-                }
-            }
-            starts[PARTS] = codeSize;
-            return token == ENDED;
         }
 
         // Each of these reads as much as its rule of the grammar takes. Where one answers false, the token at
@@ -1376,12 +1371,14 @@ public final class HousingSociety {
 
     /**
      * Finds the change. Who does not move stays at its own home, so each holder gets one home and no two the
-     * same: an assignment, whose price is least for the change that is asked (the Hungarian method). A move
-     * is dearer by nothing but its home's number, a digit of the holder's own; staying is the digit above all
-     * homes; and each move takes off more than all digits together, so that the most moves come first.
+     * same: an assignment, and the one with the least price is found by the Hungarian method. The prices are
+     * such that this is the change: each holder has a digit (to the base 13) of its own, the lower members the
+     * higher ones, in which a move costs its home's number and staying more than any; and each move takes off
+     * more than all digits together, so that the most moves come first. No two changes have the same price.
      */
     private static final class Exchange {
-        private static final long DIGITS = 13, FIRST_DIGIT = 1792160394037L, MOVE = 23298085122481L;
+        // 13 to the powers of 11 and of 12.
+        private static final long BASE = 13, FIRST_DIGIT = 1792160394037L, MOVE = 23298085122481L;
         private static final long FORBIDDEN = 10000000000000000L, UNSEEN = 4000000000000000000L;
 
         final int[] goals = new int[MEMBERS];
@@ -1438,7 +1435,7 @@ public final class HousingSociety {
                 for (int home = 0; home < homeCount; home++) {
                     price[i][home + 1] = priceOf(i, home, digit);
                 }
-                digit /= DIGITS;
+                digit /= BASE;
             }
         }
 

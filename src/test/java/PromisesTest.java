@@ -909,6 +909,7 @@ public final class PromisesTest {
         due("32 the heaviest", x.parted(3, 1), 999993);
         due("32 below 0", x.parted(3, 2), 0);
         due("32 the light one", x.parted(3, 5), 7);
+        cost32Heaviest();
         Checks.enact(x, "points 1; may 1; votes 1; costs family + stair * 10 + share * 100;", 1);
         // weights: home 1: 2 + 10 + 200 = 212, home 2: 3 + 20 + 300 = 323, home 5: 1 + 10 + 600 = 611; all 1146.
         due("32 cost", x.cost(10), 4);
@@ -916,6 +917,18 @@ public final class PromisesTest {
         for (int home = 0; home < 6; home++) {
             due("32 by names " + home, x.parted(4, home), byNames[home]);
         }
+    }
+
+    private static void cost32Heaviest() {
+        HousingSociety x = Checks.society(2, 2);
+        x.right(0, 0, 0, 0);
+        x.right(0, 1, 1, 0);
+        Checks.enact(x, "points 1; may 1; votes 1; costs 999998 + share;", 1);
+        x.cost(1);
+        due("32 a weight of 1000000 is more than one of 999999", x.parted(0, 1), 1);
+        Checks.enact(x, "points 1; may 1; votes 1; costs 999999 + share;", 1);
+        x.cost(1);
+        due("32 a weight of 1000001 is no more than one of 1000000", x.parted(1, 1), 0);
     }
 
     private static void cost32Refused() {
@@ -1010,7 +1023,7 @@ public final class PromisesTest {
     /** By the words of the promise: from 0 on, the first with which no year ends below 0. */
     private static int leastByFund(HousingSociety x) {
         int least = 0;
-        while (!isNeverBelow(x, least)) {
+        while (least < 1000000 && !isNeverBelow(x, least)) {
             least++;
         }
         return least;
