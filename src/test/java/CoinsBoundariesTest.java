@@ -296,6 +296,11 @@ public final class CoinsBoundariesTest {
             HousingSociety y = new HousingSociety();
             y.put(0, 3, 0);
             host(y, "of no MEMBERS", y.forge(0, 2, 0), -1, 12);
+            HousingSociety z = Probe.full();
+            z.pay(23, 1000000);
+            z.put(0, 3, 0);
+            host(z, "of as many as there can be", z.forge(0, 2, 23), -1000000, 0);
+            host(z, "one more", z.forge(0, 2, 24), -1, 12);
         });
     }
 

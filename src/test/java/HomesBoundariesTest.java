@@ -448,6 +448,12 @@ public final class HomesBoundariesTest {
             y.day(20);
             y.leave(6);
             s.due("one whose TO was ahead of today", y.rightTold(6, 5), 20);
+            HousingSociety z = Checks.society(1, 1);
+            Probe.fillRights(z, 60);
+            z.leave(0);
+            s.due("as many GUEST rights as there can be", z.count(4), 0);
+            s.due("the first of them", z.rightTold(0, 5), 0);
+            s.due("the last of them", z.rightTold(59, 5), 0);
         });
         s.test("Promise 9", "of a JOINT one the other MEMBER has a LEFT RIGHT to the HOME from today.", () -> {
             for (int goes = 2; goes <= 3; goes++) {

@@ -90,6 +90,33 @@ public final class ReadingBoundariesTest {
             x.carry(1, 0);
             s.due("its worth", x.points(0, 0, 0), longest.chars().filter(c -> c == '+').count() + 1);
         });
+        s.test("Terms 2", "(400 bytes at most)", () -> {
+            // 11 TEXTS of 400 bytes, each worth its own number, of as many TOKENS as there can be.
+            HousingSociety x = Checks.society(1, 1);
+            for (int text = 1; text < 12; text++) {
+                StringBuilder sum = new StringBuilder("points" + (100 + text));
+                while (sum.length() + REST.length() < 399) {
+                    sum.append("-1");
+                }
+                sum.append(REST);
+                s.due("size", sum.length(), 400);
+                s.due("propose", Checks.propose(x, sum.toString()), text);
+                x.vote(0, text, true);
+                x.carry(text, 0);
+                s.due("its worth", x.points(0, 0, 0), 100 + text - sum.chars().filter(c -> c == '-').count());
+                s.due("its may", x.points(0, 0, 1), 1);
+            }
+            // The last TOKEN ends with THE TAPE.
+            for (String last : new String[] {"points", "point", "pointss", "members", "memberss", "waits", "1", "999999", "1234567", "(", "-"}) {
+                StringBuilder text = new StringBuilder("points 1 +");
+                while (text.length() + last.length() < 400) {
+                    text.append(' ');
+                }
+                boolean isOne = last.equals("members") || last.equals("waits") || last.equals("1") || last.equals("999999");
+                boolean canStand = isOne || last.equals("(") || last.equals("-");
+                read(text + last, 1, canStand ? 400 : 400 - last.length());
+            }
+        });
     }
 
     private static void tokens() {
@@ -119,6 +146,10 @@ public final class ReadingBoundariesTest {
             bad("Waits", 0);
             bad("waits1", 5);
             bad("1waits", 1);
+            bad("waitsz", 0);
+            bad("waitsa", 0);
+            bad("1 + zwaits", 4);
+            bad("1 + awaits", 4);
             StringBuilder longest = new StringBuilder("points ");
             while (longest.length() < 400) {
                 longest.append('z');
@@ -387,6 +418,9 @@ public final class ReadingBoundariesTest {
                 bad("1 + " + c, 4);
                 bad("1 + waits " + c, 10);
                 read("points 1" + REST + " " + c, 1, 9 + REST.length());
+                bad("(" + c + "1)", 1);
+                bad("-" + c + "1", 1);
+                bad("not" + c + " 1", 3);
                 read("" + c, 1, 0);
             }
         });
@@ -395,6 +429,9 @@ public final class ReadingBoundariesTest {
                 "ma", "mayy", "o", "orr", "an", "andd", "no", "nott", "aits", "amily", "debts", "stairs", "shares", "join", "cost", "vote"}) {
                 bad("1 + " + word, 4);
                 bad("1 " + word, 2);
+                bad("(" + word + " 1)", 1);
+                bad("- " + word + " 1", 2);
+                bad("not " + word + " 1", 4);
                 read(word + " 1" + REST, 1, 0);
                 read("points 1" + REST + word, 1, 8 + REST.length());
             }
@@ -404,6 +441,12 @@ public final class ReadingBoundariesTest {
             bad("1 + memberswaits", 4);
             bad("1 + 1234567", 4);
             bad("1 + 0000000 + 1", 4);
+            for (String tooLong : new String[] {"abcdefghi", "waitswaits", "1234567"}) {
+                bad("(" + tooLong + " 1)", 1);
+                bad("- " + tooLong + " 1", 2);
+                bad("not " + tooLong + " 1", 4);
+                read("points 1;" + tooLong + " may 1;votes 1;costs 1;", 1, 9);
+            }
             bad("1 + 12345678901234567890", 4);
             // Beyond int and long, the digits may wrap to any number.
             bad("4294967297", 0);

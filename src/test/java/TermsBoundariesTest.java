@@ -538,6 +538,31 @@ public final class TermsBoundariesTest {
                 s.row("1 has what 0 does not WISH", x, (y, member) -> y.moves(member), 11, 10, NONE);
                 x.wish(2, 9, true);
                 s.row("2 has what is left", x, (y, member) -> y.moves(member), 11, 10, 9);
+                HousingSociety z = Checks.society(12, 3);
+                for (int i = 0; i < 3; i++) {
+                    z.right(0, i, i, 0);
+                }
+                z.wish(0, 3, true);
+                z.wish(0, 4, true);
+                z.wish(1, 3, true);
+                z.wish(1, 11, true);
+                s.row("the least of 0 comes ahead of all that 1 could have", z, (y, member) -> y.moves(member), 3, 11, NONE);
+                z.wish(1, 10, true);
+                z.wish(2, 10, true);
+                z.wish(2, 11, true);
+                z.wish(2, 5, true);
+                s.row("then the least of 1, and of 2", z, (y, member) -> y.moves(member), 3, 10, 5);
+                // Three of four can MOVE: as 0, -, 11, 1 or as 1, 0, 2, -; the first HOME of 0 outweighs all the rest.
+                HousingSociety u = Checks.society(12, 4);
+                int[] own = {3, 2, 4, 11};
+                int[][] wished = {{0, 1}, {0}, {2, 11}, {1}};
+                for (int member = 0; member < 4; member++) {
+                    u.right(0, own[member], member, 0);
+                    for (int home : wished[member]) {
+                        u.wish(member, home, true);
+                    }
+                }
+                s.row("the least of 0, though 1 stays and 2 has the last HOME", u, (y, member) -> y.moves(member), 0, NONE, 11, 1);
             });
         s.test("Terms 3", "(Of a JOINT RIGHT its first MEMBER alone can WISH; both go.)", () -> {
             HousingSociety x = Checks.society(2, 2);
@@ -580,6 +605,10 @@ public final class TermsBoundariesTest {
             // TEXT 2 is in force till the day ahead of 50.
             x.cost(1000);
             s.row("on the day TO of a LET", x, (y, home) -> y.parted(4, home), 100, 0, 300, 600, 0, 0, 0);
+            x.end(0);
+            x.cost(900);
+            s.row("without the first HOME", x, (y, home) -> y.parted(5, home), 0, 0, 300, 600, 0, 0, 0);
+            s.due("DEBT of who left it", x.pay(0, 0), 9 + 300);
         });
         s.test("Terms 4", "each has a weight, its costs by the TEXT IN FORCE, 0 if that is below 0,", () -> {
             HousingSociety x = payers(4, "share - 2");
