@@ -1,4 +1,8 @@
+import java.io.IOException;
+import java.nio.file.Files;
+import java.nio.file.Path;
 import java.util.function.LongSupplier;
+import java.util.stream.Stream;
 
 /** What the tests share: counting wrong answers, feeding texts, and telling all that an object tells. */
 final class Checks {
@@ -32,6 +36,15 @@ final class Checks {
         System.out.println(name + ": " + done + " answers, " + wrong + " of them wrong");
         if (wrong != 0 || done == 0) {
             System.exit(1);
+        }
+    }
+
+    /** A directory that a test made goes, with all that is in it. */
+    static void remove(Path directory) throws IOException {
+        try (Stream<Path> all = Files.walk(directory)) {
+            for (Path path : all.sorted((one, other) -> other.compareTo(one)).toList()) {
+                Files.delete(path);
+            }
         }
     }
 

@@ -22,6 +22,9 @@ public final class RulesTest {
         + " wish(int,int,boolean) best() moves(int) change() cost(int) parted(int,int) long:pay(int,int) year(int,int)"
         + " gain(int) due() long:fund(int,int) count(int) put(int,int,int) forge(int,int,int) status()";
 
+    private static final List<String> LIBRARY = List.of("System.arraycopy", "Arrays.copyOf", "Math.min", "Math.max",
+        "Math.floorMod", "Integer.bitCount");
+
     public static void main(String[] args) throws Exception {
         face();
         insides();
@@ -46,8 +49,10 @@ public final class RulesTest {
         checks.due("the constructor is public", constructors[0].getModifiers(), Modifier.PUBLIC);
         TreeSet<String> constants = new TreeSet<>();
         for (Field f : c.getDeclaredFields()) {
-            if (Modifier.isPublic(f.getModifiers())) {
+            if (!Modifier.isPrivate(f.getModifiers())) {
                 constants.add(f.getType() + " " + f.getName());
+                checks.due(f.getName() + " is a public constant", f.getModifiers(),
+                    Modifier.PUBLIC | Modifier.STATIC | Modifier.FINAL);
             }
         }
         checks.same("public constants", constants.toString(), "[int BAD, int FULL, int NONE, int STATE, long NO]");
@@ -110,12 +115,20 @@ public final class RulesTest {
         while (imports.find()) {
             checks.same("import", imports.group(1), "java.util.Arrays");
         }
-        Matcher system = Pattern.compile("\\bSystem\\.(\\w+)").matcher(code);
-        while (system.find()) {
-            checks.same("of System", system.group(1), "arraycopy");
-        }
+        library(code);
         checks.due("plain characters alone", whole.chars().allMatch(c -> c < 128) ? 1 : 0, 1);
         methodsAreShort(code);
+    }
+
+    /** Of the library nothing is used but what the rules list. */
+    private static void library(String code) {
+        Matcher calls = Pattern.compile("\\b(System|Arrays|Math|Integer|Long|String)\\.(\\w+)").matcher(code);
+        while (calls.find()) {
+            checks.due(calls.group() + " is listed", LIBRARY.contains(calls.group()) ? 1 : 0, 1);
+        }
+        Matcher classes = Pattern.compile("\\b(Character|Byte|Short|Boolean|Double|Float|Objects?|Iterable|Iterator|Optional"
+            + "|Runtime|Class|List|ArrayList|Collections|StringBuilder|var|native|volatile|transient|yield)\\b").matcher(code);
+        checks.due("another class of the library", classes.find() ? 1 : 0, 0);
     }
 
     private static void methodsAreShort(String code) {
